@@ -28,6 +28,7 @@ public final class ClaimTest {
     lettingGo();
     giving();
     groundsHeld();
+    askedAnew();
     groundsSold();
     chasing();
     whose();
@@ -265,11 +266,38 @@ public final class ClaimTest {
     x.moment(1, 3, 0, 0, 0);
     due("14: held, if by the same", x.claimTold(1, 1, STANDS), 0);
     due("14: the other beast isn't", x.claimTold(1, 3, STANDS), 1);
+    due("14: nor was it ahead of that", x.claimTold(0, 1, STANDS), 1);
     x.moment(1, 4, 0, 0, 0);
     due("14: lost from sight it is held", x.claimTold(2, 4, STANDS), 1);
     x.undo();
     x.moment(1, 8, 0, 0, 0);
     due("14: let go", x.claimTold(2, 1, STANDS), 1);
+  }
+
+  /** Questions don't hang on what was asked ahead of them. */
+  private static void askedAnew() {
+    WhoseHare x = land();
+    x.beast(2, 6);
+    x.moment(90, 5, 0, 9, 0);
+    x.moment(90, 3, 0, 9, 0);
+    x.moment(95, 6, 0, 9, 0);
+    Checks.read(x, "worth since;follow 1;");
+    x.force(1);
+    due("14: since 0, now 95", x.claimTold(3, 0, 7), 95);
+    due("14: now 0", x.claimTold(0, 0, 7), 0);
+    due("17: was away since 90", x.where(0, 3, 1), 90);
+    due("17: never away", x.where(0, 0, 1), 0);
+    due("17: not dead", x.where(0, 2, 2), 0);
+    x.undo();
+    x.undo();
+    due("33: a claim that was", x.taken(8, 3), -11);
+    WhoseHare y = land();
+    y.beast(2, -1);
+    y.moment(1, 3, 0, 4, 0);
+    y.moment(2, 5, 0, 4, 0);
+    due("14: held by claim 0", y.claimTold(2, 1, STANDS), 0);
+    y.moment(3, 8, 0, 4, 0);
+    due("14: claim 0 let go", y.claimTold(3, 1, STANDS), 1);
   }
 
   private static void groundsSold() {

@@ -23,16 +23,14 @@ public final class HostTest {
     CHECKS.end();
   }
 
-  /** A cell's number, as judge() tells it: a beast of nobody's, n cells and so n - 1 moments. */
+  /** A sheet's numbers, each told as the time of a moment by way of sheet 3. */
   private static void numbers(String what, WhoseHare x, int s, int... due) {
-    WhoseHare y = x;
     for (int i = 0; i < due.length; i++) {
-      // a time is told by a moment of it: row i, 0, 0, 0, 0 of a copy in sheet 3
-      y.sheet(3, 2, 5);
-      due(what + ": copied " + i, y.copy(s, i, 3, 0, 1), 1);
-      due(what + ": came " + i, y.tell(3, 2, 0, 1), 1);
-      due(what + ": number " + i, y.momentTold(y.count(2) - 1, 0), due[i]);
-      y.undo();
+      x.sheet(3, 2, 5);
+      due(what + ": copied " + i, x.copy(s, i, 3, 0, 1), 1);
+      due(what + ": came " + i, x.tell(3, 2, 0, 1), 1);
+      due(what + ": number " + i, x.momentTold(x.count(2) - 1, 0), due[i]);
+      x.undo();
     }
   }
 

@@ -222,7 +222,11 @@ public final class LandTest {
     due("28: others came in their place", x.back(), 5);
     due("28: these are unsure then, by number", x.momentTold(4, 5), 1);
     due("28: they stay themselves", x.momentTold(4, 3), 9);
+    x.force(1);
     due("27: anew", x.image(), 5);
+    x.force(0);
+    x.back();
+    due("28: that image's law", x.count(5), 1);
     x.undo();
     due("27: the newest counts: 4", x.image(), 4);
     x.moment(30, 0, 0, 0, 0);

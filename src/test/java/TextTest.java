@@ -13,6 +13,7 @@ public final class TextTest {
     reading();
     faults();
     tooDeep();
+    anew();
     forcing();
     working();
     namesOfClaims();
@@ -90,6 +91,9 @@ public final class TextTest {
     fault("worth kinds; follow 1;", 6);
     fault("worth kin; follow 1;", 6);
     fault("worth kind who; follow 1;", 11);
+    fault("worth whoz; follow 1;", 6);
+    fault("worth awho; follow 1;", 6);
+    fault("worth who follow; follow 1;", 10);
     fault("worth 1 2; follow 1;", 8);
     fault("worth 12345; follow 1;", 6);
     fault("worth 00001; follow 1;", 6);
@@ -143,6 +147,29 @@ public final class TextTest {
     fault("worth (((((1 - 1)))));follow 1;", -1);
     fault("worth (((((1 - -1)))));follow 1;", 15);
     fault("worth (((((not 1)))));follow 1;", 11);
+  }
+
+  /** What was read ahead of a text, rightly or not, leaves nothing behind. */
+  private static void anew() {
+    WhoseHare x = new WhoseHare();
+    due("10: a fault behind five (", Checks.read(x, "worth (((((;"), -100 - 11);
+    due("10: five can be open anew", Checks.read(x, "worth (((((1)))));follow -----1;"), 1);
+    StringBuilder most = new StringBuilder("worth 1");
+    while (most.length() < 147) {
+      most.append("+1");
+    }
+    most.append(";follow 1; ");
+    due("10: a text of 158 bytes", Checks.read(x, most.toString()), 2);
+    due("10: one of 160 bytes", Checks.read(x, most + "\n "), 3);
+    due("10: broken at the end", Checks.read(x, most + " ("), -100 - 159);
+    due("10: one more", Checks.read(x, most.toString()), 4);
+    x.ground(0);
+    x.beast(0, -1);
+    for (int t = 2; t < 5; t++) {
+      x.force(t);
+      due("10: each is worth 71", x.claimTold(0, 0, 7), 71);
+      due("10: each lets follow", x.follow(0, 0, 0), 1);
+    }
   }
 
   private static void forcing() {
@@ -201,6 +228,10 @@ public final class TextTest {
     worth("0 or 0", 0);
     worth("7 and 2", 1);
     worth("7 and 0", 0);
+    worth("1 and 2", 1);
+    worth("2 and 1", 1);
+    worth("0 and 7", 0);
+    worth("0 or 2", 1);
     worth("0 and 0 or 1", 1);
     worth("1 or 1 and 0", 1);
     worth("7", 7);
