@@ -25,6 +25,10 @@ final class Checks {
     due(what, is ? 1 : 0, 1);
   }
 
+  int answers() {
+    return right + wrong;
+  }
+
   boolean allRight() {
     return wrong == 0;
   }

@@ -3,7 +3,8 @@ import java.util.Random;
 /** Random runs (always the same ones): every answer is held against Model's. */
 public final class ModelTest {
   private static final int RUNS = 6000;
-  private static final int CALLS = 160;
+  /** An object answers 512 calls, and a step of a run takes fewer than 50. */
+  private static final int CALLS = 512 - 50;
   private final Checks checks = new Checks("ModelTest");
   private final int[] asked = new int[33];
   private Random random;
@@ -21,9 +22,10 @@ public final class ModelTest {
       x = new WhoseHare();
       y = new Model();
       time = 0;
+      int start = checks.answers();
       begin(run);
-      for (int c = 0; c < CALLS && checks.allRight(); c++) {
-        call("run " + run + " call " + c + " ", run);
+      while (checks.answers() - start < CALLS && checks.allRight()) {
+        call("run " + run + " call " + (checks.answers() - start) + " ", run);
       }
     }
     for (int k = 0; k < asked.length; k++) {
