@@ -26,8 +26,10 @@ public final class FaceTest {
       "int unsure(int,int)", "int where(int,int,int)", "int whoseIs(int,int)", "int why(int,int)",
       "long share(int,int,int,int)"};
   private static final List<String> FORBIDDEN = List.of("throw", "throws", "try", "catch", "finally", "synchronized",
-      "assert", "goto", "native", "volatile", "transient", "protected", "package", "equals", "hashCode", "Object",
-      "Exception", "Thread", "System.out", "Random", "nanoTime", "currentTimeMillis");
+      "assert", "goto", "native", "volatile", "transient", "protected", "package", "equals", "hashCode", "toString",
+      "Object", "Exception", "Thread", "System.out", "Random", "nanoTime", "currentTimeMillis", "strictfp", "yield");
+  private static final List<String> LIBRARY = List.of("Arrays.copyOfRange", "Arrays.fill", "System.arraycopy",
+      "Integer.bitCount", "Math.max", "Math.min", "Sheet.NO_SORT", "WORDS.length", "WORDS.charAt");
 
   private FaceTest() { }
 
@@ -111,6 +113,10 @@ public final class FaceTest {
     Matcher imported = Pattern.compile("import ([^;]*);").matcher(code);
     while (imported.find()) {
       CHECKS.holds("import " + imported.group(1), imported.group(1).equals("java.util.Arrays"));
+    }
+    Matcher called = Pattern.compile("\\b([A-Z]\\w*)\\.(\\w+)").matcher(code);
+    while (called.find()) {
+      CHECKS.holds("the library's " + called.group(), LIBRARY.contains(called.group()));
     }
     CHECKS.holds("signs 1 to 127", code.chars().allMatch(c -> c > 0 && c < 128));
     longMethods(text.split("\n"));

@@ -38,6 +38,7 @@ public final class LandEdgesTest {
     imageOfMoments();
     notInTheImage();
     asking();
+    lastCalls();
     CHECKS.end();
   }
 
@@ -459,5 +460,15 @@ public final class LandEdgesTest {
       Recipes.SOME.make(x);
       x.sheet(3, 0, 9);
     }, x -> x.judge(0, 3), 0);
+  }
+
+  /** An object is used for at most 512 calls: the 512th is answered as the first. */
+  private static void lastCalls() {
+    WhoseHare x = wild(1);
+    for (int call = 3; call <= 511; call++) {
+      int m = call % 2 == 1 ? x.moment(1, 3, 0, 6, 0) : x.undo();
+      due("call " + call, m, call % 2 == 1 ? 0 : 3);
+    }
+    due("call 512", x.whoseIs(0, 1), 6);
   }
 }

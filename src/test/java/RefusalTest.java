@@ -21,9 +21,11 @@ public final class RefusalTest {
     unsureOnes();
     told();
     tapes();
+    faults();
     laws();
     claims();
     whose();
+    answersOfMinusOne();
     judges();
     unseen();
     shares();
@@ -182,6 +184,44 @@ public final class RefusalTest {
       }, FULL, x -> x.feed(-1L, many));
     }
     refused("10: text() behind six: FULL, ahead of the FAULT; the TAPE stays", MOST, FULL, x -> x.text());
+  }
+
+  /** A FAULT empties the TAPE, and that is all: behind a TAPE that was empty nothing is another. */
+  private static void faults() {
+    Recipes.Recipe emptyTape = x -> {
+      Recipes.SOME.make(x);
+      x.feed(';', 1);
+      CHECKS.due("10: a TEXT", x.text(), 3);
+    };
+    String[] texts = {"", "worth ?", "worth 1;follow 1", "worth 12345;follow 1;", "worth ((((((1))))));follow 1;"};
+    int[] places = {0, 6, 16, 6, 11};
+    for (int k = 0; k < texts.length; k++) {
+      String text = texts[k];
+      refused("10: FAULT of <" + text + ">", emptyTape, -100 - places[k], x -> Checks.read(x, text));
+    }
+  }
+
+  /** A -1 that is an answer comes behind the refusal of a number. */
+  private static void answersOfMinusOne() {
+    Recipes.Recipe nobodys = x -> {
+      x.ground(-1);
+      x.beast(0, -1);
+      x.sheet(0, 0, 1);
+      x.cell(0, 0, -1);
+    };
+    refused("3: it was nobody's, but who: -7", nobodys, NO_WHAT, x -> x.owns(0, 10));
+    refused("15: nobody's", nobodys, -1, x -> x.whoseIs(0, 0));
+    refused("15: nobody's, but n: -7", nobodys, NO_WHAT, x -> x.whoseIs(0, 1));
+    refused("15: nobody's, but n: -7", nobodys, NO_WHAT, x -> x.whoseIs(0, -1));
+    refused("16: by none", nobodys, -1, x -> x.why(0, 0));
+    refused("16: by none, but n: -7", nobodys, NO_WHAT, x -> x.why(0, 1));
+    refused("16: by none, but BEAST: -5", nobodys, NO_SUCH, x -> x.why(1, 0));
+    refused("19: all are right", nobodys, -1, x -> x.judge(0, 0));
+    refused("19: all are right, but BEAST: -5", nobodys, NO_SUCH, x -> x.judge(1, 0));
+    refused("19: all are right, but SHEET: BAD", nobodys, BAD, x -> x.judge(0, 4));
+    refused("22: in no way", nobodys, -1, x -> x.least(0, 0));
+    refused("22: in no way, but one: -5", nobodys, NO_SUCH, x -> x.least(0, 10));
+    refused("22: in no way, but BEAST: -5", nobodys, NO_SUCH, x -> x.least(1, 0));
   }
 
   private static void laws() {

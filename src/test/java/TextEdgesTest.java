@@ -21,6 +21,8 @@ public final class TextEdgesTest {
     words();
     longestTokens();
     numbers();
+    tokensAtTheEnd();
+    whatStoodThere();
     tooEarly();
     tooMuch();
     grammar();
@@ -193,6 +195,37 @@ public final class TextEdgesTest {
       most.append('1');
     }
     fault(most.toString(), 6);
+  }
+
+  /** Tokens whose last byte is the 160th. */
+  private static void tokensAtTheEnd() {
+    String blanks = " ".repeat(160);
+    for (String word : new String[] {"worth", "wort", "w", "worthy", "kind", "who", "kin", "9999", "12345", "(", "?"}) {
+      String text = blanks.substring(word.length()) + word;
+      due("9: so long", text.length(), 160);
+      fault(text, word.equals("worth") ? 160 : 160 - word.length());
+    }
+    String ahead = "worth 1;follow 1+" + blanks;
+    for (String one : new String[] {"kind", "who", "tame", "7", "9999"}) {
+      fault(ahead.substring(0, 160 - one.length()) + one, 160);
+      right(ahead.substring(0, 159 - one.length()) + one + ";");
+    }
+    for (String none : new String[] {"kin", "whos", "12345", "worth", "and"}) {
+      fault(ahead.substring(0, 160 - none.length()) + none, 160 - none.length());
+    }
+    fault(ahead.substring(0, 15) + "1" + blanks.substring(0, 141) + "not", 157);
+  }
+
+  /** Bytes of a longer text that was read ahead of it are no part of a shorter one. */
+  private static void whatStoodThere() {
+    WhoseHare x = new WhoseHare();
+    due("10: a long one", Checks.read(x, "worth 1111+kinds;follow 1;;"), FAULT - 11);
+    due("10: cut within a word", Checks.read(x, "worth 1111+kin"), FAULT - 11);
+    due("10: cut behind a word", Checks.read(x, "worth 1111+kind"), FAULT - 15);
+    due("10: cut within a number", Checks.read(x, "worth 1"), FAULT - 7);
+    due("10: cut within a text", Checks.read(x, "worth 1;follow 2;"), 1);
+    due("10: another", Checks.read(x, "worth 7;follow 1;"), 2);
+    due("10: cut ahead of its last byte", Checks.read(x, "worth 7;follow 1"), FAULT - 16);
   }
 
   /** Each beginning of a text that has no ends at its size, or at the word that is cut off. */
