@@ -17,6 +17,7 @@ public final class UnseenEdgesTest {
     sureOnes();
     eachOne();
     sixUnsure();
+    allSixHang();
     bitsByOrder();
     leftOutOfNow();
     leftOutOfAll();
@@ -102,6 +103,26 @@ public final class UnseenEdgesTest {
     due("20: never nobody's", x.may(0), 63 | 1 << 9);
     due("22: 9's without all six", x.least(0, 9), 63);
     due("15: UNSURE ones count else", x.whoseIs(0, 7), 0);
+  }
+
+  /** Held by 0, then given from each to the next: it hangs on all of them. */
+  private static void allSixHang() {
+    WhoseHare x = wild();
+    x.moment(1, HELD, 0, 0, 0);
+    x.unsure(0, 1);
+    for (int p = 0; p < 5; p++) {
+      x.moment(1, 9, 0, p, p + 1);
+      x.unsure(p + 1, 1);
+    }
+    due("21: on all six", x.hangs(0), 63);
+    due("20: 0's .. 5's, nobody's", x.may(0), 63 | NOBODYS);
+    due("22: it is 5's", x.least(0, 5), 0);
+    for (int p = 0; p < 5; p++) {
+      due("22: " + p + "'s without that it was given on", x.least(0, p), 2 << p);
+    }
+    x.moment(1, 3, 0, 9, 0);
+    due("21: 9's only without the first", x.hangs(0), 63);
+    due("22: 9's without the first", x.least(0, 9), 1);
   }
 
   private static void bitsByOrder() {
