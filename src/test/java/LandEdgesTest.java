@@ -32,6 +32,7 @@ public final class LandEdgesTest {
     counts();
     emptyImage();
     fullImage();
+    wholeImage();
     newestImage();
     imageOfGrounds();
     imageOfUnsure();
@@ -341,6 +342,33 @@ public final class LandEdgesTest {
     }
     due("28: not one", x.back(), 0);
     due("28: none is UNSURE then", x.count(3), 0);
+  }
+
+  /** Each of eight GROUNDS, and the last of 32 MOMENTS, are as in it again. */
+  private static void wholeImage() {
+    WhoseHare x = land(7, 6, 5, 4, 3, 2, 1, 0);
+    x.beast(0, -1);
+    for (int m = 0; m < 32; m++) {
+      x.moment(m, 0, 0, m % 10, 0);
+    }
+    for (int m = 26; m < 32; m++) {
+      x.unsure(m, 1);
+    }
+    due("27: of 32 MOMENTS", x.image(), 32);
+    for (int g = 0; g < 8; g++) {
+      x.owns(g, 9);
+    }
+    for (int m = 26; m < 32; m++) {
+      x.unsure(m, 0);
+      x.unsure(m - 20, 1);
+    }
+    due("28: all 32", x.back(), 32);
+    for (int g = 0; g < 8; g++) {
+      due("28: whose GROUND " + g + " is", x.owns(g, -1), 7 - g);
+    }
+    for (int m = 0; m < 32; m++) {
+      due("28: UNSURE " + m, x.momentTold(m, 5), m < 26 ? 0 : 1);
+    }
   }
 
   private static void newestImage() {

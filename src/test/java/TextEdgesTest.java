@@ -17,6 +17,7 @@ public final class TextEdgesTest {
     fullTape();
     emptyTape();
     bytes();
+    bytesBehindWords();
     blanks();
     words();
     longestTokens();
@@ -125,6 +126,24 @@ public final class TextEdgesTest {
     }
     for (int c = 128; c < 256; c++) {
       fault((char) c + "worth 1;follow 1;", 0);
+    }
+  }
+
+  /** Each byte behind a name: a letter makes it another word, what else is none of the word. */
+  private static void bytesBehindWords() {
+    for (int c = 0; c < 256; c++) {
+      String text = "worth kind" + (char) c + ";follow 1;";
+      if (c >= 'a' && c <= 'z') {
+        fault(text, 6);
+      } else if (c == 32 || c == 10) {
+        right(text);
+      } else {
+        fault(text, c == ';' || "+-*<=".indexOf(c) >= 0 ? 11 : 10);
+      }
+      if (c < 'a' || c > 'z') {
+        boolean mayStand = " \n-(0123456789".indexOf(c) >= 0;
+        fault("worth" + (char) c + "?", mayStand ? 6 : 5);
+      }
     }
   }
 
